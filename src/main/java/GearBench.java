@@ -14,9 +14,11 @@ public final class GearBench {
     private static final int FIRST_CODE = 33;
     private static final int LAST_CODE = 126;
     private static final int MOST_CODES = 60;
+    // The shortest order has two characters.
     private static final int MOST_ORDERS = 30;
     private static final int MOST_PARTS = 3;
     private static final int MOST_SAVED = 6;
+    // Two longs have their common divisor after fewer than 100 steps.
     private static final int MOST_GCD_STEPS = 200;
 
     private static final int NOTHING = 0;

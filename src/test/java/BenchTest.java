@@ -237,6 +237,8 @@ final class BenchTest {
         CHECK.refused("8 numerator 100", x, ARGUMENT, () -> x.goal(0, 100, 1));
         CHECK.refused("8 denominator 0", x, ARGUMENT, () -> x.goal(0, 1, 0));
         CHECK.refused("8 denominator 100", x, ARGUMENT, () -> x.goal(0, 1, 100));
+        CHECK.equal("8 the least numerator", x.goal(0, -99, 1), 0);
+        CHECK.equal("8 the greatest numerator", x.goal(0, 99, 1), 0);
         CHECK.equal("8 of 0, nothing turns", x.goal(1, 0, 99), 1);
         CHECK.equal("8 nothing turns", x.goal(1, -2, 3), 0);
         x.drive(0);
