@@ -1,22 +1,22 @@
 /** Promises 1 to 9: the bench. */
 final class BenchTest {
     private static final Check CHECK = new Check("BenchTest");
-    private static final Class<IllegalArgumentException> ARGUMENT = IllegalArgumentException.class;
-    private static final Class<IllegalStateException> STATE = IllegalStateException.class;
-    private static final Class<IndexOutOfBoundsException> INDEX = IndexOutOfBoundsException.class;
+    private static final Class<IllegalArgumentException> ARGUMENT = Check.ARGUMENT;
+    private static final Class<IllegalStateException> STATE = Check.STATE;
+    private static final Class<IndexOutOfBoundsException> INDEX = Check.INDEX;
 
     public static void main(String[] args) {
-        promise1NewObject();
-        promise2AddPeg();
-        promise3PutGear();
-        promise3GearsAndPlay();
-        promise4PutRing();
-        promise4RingsAndPlay();
-        promise5Move();
-        promise6Flip();
-        promise7Drive();
-        promise8Goal();
-        promise9Set();
+        CHECK.test("promise 1: new object", BenchTest::promise1NewObject);
+        CHECK.test("promise 2: add peg", BenchTest::promise2AddPeg);
+        CHECK.test("promise 3: put gear", BenchTest::promise3PutGear);
+        CHECK.test("promise 3: gears and play", BenchTest::promise3GearsAndPlay);
+        CHECK.test("promise 4: put ring", BenchTest::promise4PutRing);
+        CHECK.test("promise 4: rings and play", BenchTest::promise4RingsAndPlay);
+        CHECK.test("promise 5: move", BenchTest::promise5Move);
+        CHECK.test("promise 6: flip", BenchTest::promise6Flip);
+        CHECK.test("promise 7: drive", BenchTest::promise7Drive);
+        CHECK.test("promise 8: goal", BenchTest::promise8Goal);
+        CHECK.test("promise 9: set", BenchTest::promise9Set);
         CHECK.end();
     }
 

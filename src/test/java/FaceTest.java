@@ -12,7 +12,14 @@ final class FaceTest {
     private static final String ARGUMENT = "IllegalArgumentException";
     private static final String STATE = "IllegalStateException";
 
-    public static void main(String[] args) throws Exception {
+    public static void main(String[] args) {
+        CHECK.test("the public face: methods", FaceTest::methods);
+        CHECK.test("the public face: constant and constructor", FaceTest::constantsAndConstructor);
+        CHECK.test("the public face: nothing else is open", FaceTest::everythingElseIsPrivate);
+        CHECK.end();
+    }
+
+    private static void methods() throws Exception {
         method("int", "addPeg", 2, ARGUMENT, STATE);
         method("int", "putGear", 3, INDEX, ARGUMENT, STATE);
         method("int", "putRing", 3, INDEX, ARGUMENT, STATE);
@@ -38,9 +45,6 @@ final class FaceTest {
         method("int", "culprit", 0);
         method("double", "turningShare", 0);
         method("long", "digest", 0);
-        constantsAndConstructor();
-        everythingElseIsPrivate();
-        CHECK.end();
     }
 
     private static void method(String returned, String name, int parameters, String... thrown) throws Exception {

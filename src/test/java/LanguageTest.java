@@ -20,7 +20,12 @@ final class LanguageTest {
     private static final List<String> NAMES = List.of("GearBench", "Bench", "Works", "Row", "Text", "History",
         "System", "IllegalStateException", "IllegalArgumentException", "IndexOutOfBoundsException");
 
-    public static void main(String[] args) throws Exception {
+    public static void main(String[] args) {
+        CHECK.test("LANGUAGE.md", LanguageTest::allRules);
+        CHECK.end();
+    }
+
+    private static void allRules() throws Exception {
         String whole = Files.readString(Path.of("src/main/java/GearBench.java"));
         String text = withoutComments(whole);
         for (int i = 0; i < whole.length(); i++) {
@@ -41,7 +46,6 @@ final class LanguageTest {
         onlyKnownNames(text);
         methodsAreShort(text);
         sizes();
-        CHECK.end();
     }
 
     private static String withoutComments(String text) {

@@ -1,19 +1,19 @@
 /** Promises 15 to 21: looks. */
 final class LookTest {
     private static final Check CHECK = new Check("LookTest");
-    private static final Class<IllegalArgumentException> ARGUMENT = IllegalArgumentException.class;
-    private static final Class<IndexOutOfBoundsException> INDEX = IndexOutOfBoundsException.class;
+    private static final Class<IllegalArgumentException> ARGUMENT = Check.ARGUMENT;
+    private static final Class<IndexOutOfBoundsException> INDEX = Check.INDEX;
 
     public static void main(String[] args) {
-        promise15Peg();
-        promise16Speed();
-        promise16Jam();
-        promise17Meshes();
-        promise18Train();
-        promise18Idlers();
-        promise19Ratio();
-        promise20Marks();
-        promise21Count();
+        CHECK.test("promise 15: peg", LookTest::promise15Peg);
+        CHECK.test("promise 16: speed", LookTest::promise16Speed);
+        CHECK.test("promise 16: jam", LookTest::promise16Jam);
+        CHECK.test("promise 17: meshes", LookTest::promise17Meshes);
+        CHECK.test("promise 18: train", LookTest::promise18Train);
+        CHECK.test("promise 18: idlers", LookTest::promise18Idlers);
+        CHECK.test("promise 19: ratio", LookTest::promise19Ratio);
+        CHECK.test("promise 20: marks", LookTest::promise20Marks);
+        CHECK.test("promise 21: count", LookTest::promise21Count);
         CHECK.end();
     }
 

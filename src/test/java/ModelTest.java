@@ -20,6 +20,11 @@ final class ModelTest {
     private int built = 0;
 
     public static void main(String[] args) {
+        CHECK.test("promises 1 to 26: long runs", ModelTest::longRuns);
+        CHECK.end();
+    }
+
+    private static void longRuns() {
         ModelTest test = new ModelTest();
         for (int run = 0; run < RUNS; run++) {
             test.bench = new GearBench();
@@ -30,7 +35,6 @@ final class ModelTest {
             }
         }
         test.theRunsCameEverywhere();
-        CHECK.end();
     }
 
     /** Runs that meet no jam, no solution .. would hold nothing of it. */

@@ -1,16 +1,16 @@
 /** Promises 10 to 14: texts and undo. */
 final class TextTest {
     private static final Check CHECK = new Check("TextTest");
-    private static final Class<IllegalArgumentException> ARGUMENT = IllegalArgumentException.class;
-    private static final Class<IllegalStateException> STATE = IllegalStateException.class;
+    private static final Class<IllegalArgumentException> ARGUMENT = Check.ARGUMENT;
+    private static final Class<IllegalStateException> STATE = Check.STATE;
 
     public static void main(String[] args) {
-        promise10Append();
-        promise11ClearBuffer();
-        promise12FirstError();
-        promise13Build();
-        promise13Refused();
-        promise14Undo();
+        CHECK.test("promise 10: append", TextTest::promise10Append);
+        CHECK.test("promise 11: clear buffer", TextTest::promise11ClearBuffer);
+        CHECK.test("promise 12: first error", TextTest::promise12FirstError);
+        CHECK.test("promise 13: build", TextTest::promise13Build);
+        CHECK.test("promise 13: refused", TextTest::promise13Refused);
+        CHECK.test("promise 14: undo", TextTest::promise14Undo);
         CHECK.end();
     }
 

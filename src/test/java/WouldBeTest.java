@@ -1,17 +1,17 @@
 /** Promises 22 to 26: what would be, and the digest. */
 final class WouldBeTest {
     private static final Check CHECK = new Check("WouldBeTest");
-    private static final Class<IllegalArgumentException> ARGUMENT = IllegalArgumentException.class;
-    private static final Class<IndexOutOfBoundsException> INDEX = IndexOutOfBoundsException.class;
+    private static final Class<IllegalArgumentException> ARGUMENT = Check.ARGUMENT;
+    private static final Class<IndexOutOfBoundsException> INDEX = Check.INDEX;
 
     public static void main(String[] args) {
-        promise22IfPut();
-        promise22WithoutGoalOrDriver();
-        promise23Solution();
-        promise23Order();
-        promise24Culprit();
-        promise25TurningShare();
-        promise26Digest();
+        CHECK.test("promise 22: if put", WouldBeTest::promise22IfPut);
+        CHECK.test("promise 22: without goal or driver", WouldBeTest::promise22WithoutGoalOrDriver);
+        CHECK.test("promise 23: solution", WouldBeTest::promise23Solution);
+        CHECK.test("promise 23: order", WouldBeTest::promise23Order);
+        CHECK.test("promise 24: culprit", WouldBeTest::promise24Culprit);
+        CHECK.test("promise 25: turning share", WouldBeTest::promise25TurningShare);
+        CHECK.test("promise 26: digest", WouldBeTest::promise26Digest);
         CHECK.end();
     }
 
