@@ -2,8 +2,9 @@ import java.util.function.Supplier;
 
 /** Long runs of calls, as they come from a fixed row of numbers, against the model; the digest after each change. */
 final class ModelTest {
-    private static final int RUNS = 220;
-    private static final int CALLS = 110;
+    private static final int RUNS = 700;
+    // The document leaves free what an object answers after 512 calls; a step takes at most 100.
+    private static final int LAST_STEP_FROM = 412;
     private static final Check CHECK = new Check("ModelTest");
     private static final String[] TOKENS = {"p", "g", "r", "d", ";", ",", ".", "=", "0", "1", "6", "40", "20",
         "61", "05", "d0", "d1;", "g0.0=", "g1.1=5", "r2.0=1", "p1", "p10,10", "p20,10;", "r0.1=39;", "~", "g8.", "p60,60"};
@@ -11,6 +12,7 @@ final class ModelTest {
     private long seed = 20261119L;
     private GearBench bench;
     private Model model;
+    private int calls = 0;
     private int jams = 0;
     private int solved = 0;
     private int culprits = 0;
@@ -29,9 +31,14 @@ final class ModelTest {
         for (int run = 0; run < RUNS; run++) {
             test.bench = new GearBench();
             test.model = new Model();
-            for (int call = 0; call < CALLS; call++) {
-                test.change("run " + run + " call " + call);
-                test.look("run " + run + " call " + call);
+            test.calls = 0;
+            while (test.calls <= LAST_STEP_FROM) {
+                String where = "run " + run + " call " + test.calls;
+                test.change(where);
+                test.look(where);
+                test.look(where);
+                test.look(where);
+                test.note();
             }
         }
         test.theRunsCameEverywhere();
@@ -62,6 +69,7 @@ final class ModelTest {
     }
 
     private void same(String what, Supplier<Number> program, Supplier<Number> due) {
+        calls++;
         String answer = answerOf(program);
         String answerDue = answerOf(due);
         CHECK.equal(what + " answered " + answer + ", due is " + answerDue, answer.equals(answerDue) ? 1 : 0, 1);
@@ -225,29 +233,35 @@ final class ModelTest {
     private void look(String where) {
         int one = somePeg();
         int other = somePeg();
-        int what = near(11);
-        int level = near(2);
-        int teeth = near(21);
+        int eleven = near(11);
+        int nine = near(9);
         int four = near(4);
+        int three = near(3);
         int two = near(2);
-        same(where + " peg", () -> bench.peg(one, what), () -> model.peg(one, what));
-        same(where + " speed", () -> bench.speed(one, two), () -> model.speed(one, two));
-        same(where + " meshes", () -> bench.meshes(one, other), () -> model.meshes(one, other));
-        same(where + " train", () -> bench.train(one, other, four), () -> model.train(one, other, four));
-        same(where + " ratio", () -> bench.ratio(one, other, two), () -> model.ratio(one, other, two));
-        same(where + " marks", () -> bench.marks(), () -> model.marks());
-        same(where + " count", () -> bench.count(what), () -> model.count(what));
-        same(where + " ifPut", () -> bench.ifPut(one, level, teeth, four), () -> model.ifPut(one, level, teeth, four));
-        same(where + " solution", () -> bench.solution(two), () -> model.solution(two));
-        same(where + " culprit", () -> bench.culprit(), () -> model.culprit());
-        same(where + " turningShare", () -> bench.turningShare(), () -> model.turningShare());
+        int teeth = near(21);
+        switch (below(12)) {
+            case 0: same(where + " peg", () -> bench.peg(one, nine), () -> model.peg(one, nine)); break;
+            case 1: same(where + " speed", () -> bench.speed(one, two), () -> model.speed(one, two)); break;
+            case 2: same(where + " meshes", () -> bench.meshes(one, other), () -> model.meshes(one, other)); break;
+            case 3: same(where + " train", () -> bench.train(one, other, four), () -> model.train(one, other, four)); break;
+            case 4: same(where + " ratio", () -> bench.ratio(one, other, two), () -> model.ratio(one, other, two)); break;
+            case 5: same(where + " marks", () -> bench.marks(), () -> model.marks()); break;
+            case 6: same(where + " count", () -> bench.count(eleven), () -> model.count(eleven)); break;
+            case 7: same(where + " solution", () -> bench.solution(three), () -> model.solution(three)); break;
+            case 8: same(where + " culprit", () -> bench.culprit(), () -> model.culprit()); break;
+            case 9: same(where + " turningShare", () -> bench.turningShare(), () -> model.turningShare()); break;
+            default: same(where + " ifPut", () -> bench.ifPut(one, two, teeth, four), () -> model.ifPut(one, two, teeth, four));
+        }
+    }
+
+    private void note() {
         jams += model.count(6);
         solved += model.solution(0) >= 0 ? 1 : 0;
         culprits += model.culprit() >= 0 ? 1 : 0;
         overlapping += model.count(9) > 0 ? 1 : 0;
         for (int from = 0; from < model.now.pegs.size(); from++) {
-            longTrains += bench.train(0, from, 0) > 3 ? 1 : 0;
-            idle += bench.train(0, from, 1) > 0 ? 1 : 0;
+            longTrains += model.train(0, from, 0) > 3 ? 1 : 0;
+            idle += model.train(0, from, 1) > 0 ? 1 : 0;
         }
     }
 }

@@ -1,3 +1,5 @@
+import java.util.function.Supplier;
+
 /** Promises 22 to 26: what would be, and the digest. */
 final class WouldBeTest {
     private static final Check CHECK = new Check("WouldBeTest");
@@ -171,20 +173,35 @@ final class WouldBeTest {
     private static void promise26Digest() {
         for (int pegs = 0; pegs <= 9; pegs++) {
             for (int turning = 0; turning <= pegs; turning++) {
-                digestOf(rowOf(pegs, turning), 0, "");
+                int all = pegs;
+                int some = turning;
+                digestOf(() -> rowOf(all, some), 0, "");
             }
         }
+        digestOf(WouldBeTest::almostJammed, 0, "");
+        digestOf(() -> typed(almostJammed()), 0, "p1,~!");
+        digestOf(() -> {
+            GearBench x = typed(almostJammed());
+            x.putGear(1, 1, 6);
+            x.set(2);
+            return x;
+        }, 2, "p1,~!");
+        digestOf(() -> {
+            GearBench reached = Check.built("p20,20;p30,20;p40,20;g0.0=5;g2.0=5;d0");
+            reached.goal(2, 1, 1);
+            return reached;
+        }, 0, "");
+    }
+
+    private static GearBench almostJammed() {
         GearBench x = Check.built("p20,20;p30,20;p40,20;g0.0=5;g1.0=5;g0.1=4;d0;r2.1=40");
         x.goal(1, -3, 2);
-        digestOf(x, 0, "");
+        return x;
+    }
+
+    private static GearBench typed(GearBench x) {
         Check.type(x, "p1,~!");
-        digestOf(x, 0, "p1,~!");
-        x.putGear(1, 1, 6);
-        x.set(2);
-        digestOf(x, 2, "p1,~!");
-        GearBench reached = Check.built("p20,20;p30,20;p40,20;g0.0=5;g2.0=5;d0");
-        reached.goal(2, 1, 1);
-        digestOf(reached, 0, "");
+        return x;
     }
 
     private static GearBench rowOf(int pegs, int turning) {
@@ -201,34 +218,38 @@ final class WouldBeTest {
         return x;
     }
 
-    private static void digestOf(GearBench x, int play, String buffer) {
-        long due = digestByLooks(x, play, buffer);
+    private static void digestOf(Supplier<GearBench> recipe, int play, String buffer) {
+        long due = digestByLooks(recipe, play, buffer);
+        GearBench x = recipe.get();
         CHECK.equal("26 digest()", x.digest(), due);
         CHECK.equal("26 digest() again", x.digest(), due);
     }
 
-    /** As promise 26 lists it; no look tells the play and the buffer. */
-    private static long digestByLooks(GearBench x, int play, String buffer) {
+    /** As promise 26 lists it; no look tells the play and the buffer. No object is asked more than 512 times. */
+    private static long digestByLooks(Supplier<GearBench> recipe, int play, String buffer) {
+        GearBench x = recipe.get();
+        int pegs = x.count(0);
         long hash = 2753;
         for (int what = 0; what <= 10; what++) {
             hash = 31 * hash + x.count(what);
         }
         hash = 31 * hash + play;
-        for (int peg = 0; peg < x.count(0); peg++) {
+        for (int peg = 0; peg < pegs; peg++) {
             for (int what = 0; what <= 8; what++) {
                 hash = 31 * hash + x.peg(peg, what);
             }
             hash = 31 * hash + x.speed(peg, 0);
             hash = 31 * hash + x.speed(peg, 1);
         }
-        for (int one = 0; one < x.count(0); one++) {
-            for (int other = 0; other < x.count(0); other++) {
-                hash = 31 * hash + x.meshes(one, other);
+        for (int one = 0; one < pegs; one++) {
+            GearBench pairs = recipe.get();
+            for (int other = 0; other < pegs; other++) {
+                hash = 31 * hash + pairs.meshes(one, other);
                 for (int what = 0; what <= 3; what++) {
-                    hash = 31 * hash + x.train(one, other, what);
+                    hash = 31 * hash + pairs.train(one, other, what);
                 }
-                hash = 31 * hash + x.ratio(one, other, 0);
-                hash = 31 * hash + x.ratio(one, other, 1);
+                hash = 31 * hash + pairs.ratio(one, other, 0);
+                hash = 31 * hash + pairs.ratio(one, other, 1);
             }
         }
         hash = 31 * hash + x.marks();
