@@ -38,7 +38,7 @@ final class BenchEdgeTest {
             Check.everything(Benches.rich());
             CHECK.same("a second new object", Check.everything(new GearBench()), before);
         });
-        CHECK.answers("the public face: NONE is -1", -1, () -> GearBench.NONE);
+        CHECK.answers("promise 1: NONE is -1", -1, () -> GearBench.NONE);
     }
 
     // ---- Promise 2
@@ -485,6 +485,7 @@ final class BenchEdgeTest {
         CHECK.answers("promise 8: it is reached", 1, () -> Benches.fresh().goal(1, -1, 1));
         CHECK.answers("promise 8: it is not reached", 0, () -> Benches.fresh().goal(1, 1, 1));
         CHECK.answers("promise 8: the fraction need not be shortened", 1, () -> Benches.fresh().goal(1, -99, 99));
+        CHECK.answers("promise 8: the fraction can be shortened by 2", 1, () -> Benches.fresh().goal(1, -2, 2));
         CHECK.answers("promise 8: a fraction of more digits than the speed", 1, () -> Benches.rich().goal(2, 66, 99));
         CHECK.answers("promise 8: 0 by 99 is 0", 1, () -> Benches.fresh().goal(3, 0, 99));
         CHECK.answers("promise 8: the driver reaches 1 by 1", 1, () -> Benches.fresh().goal(0, 1, 1));

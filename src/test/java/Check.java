@@ -1,3 +1,6 @@
+import java.util.HashSet;
+import java.util.List;
+import java.util.Set;
 import java.util.function.Function;
 import java.util.function.Supplier;
 
@@ -7,12 +10,20 @@ final class Check {
     static final Class<IllegalStateException> STATE = IllegalStateException.class;
     static final Class<IndexOutOfBoundsException> INDEX = IndexOutOfBoundsException.class;
 
+    /** Calls that may come behind another one: the first one changes nothing, the others show what is kept unseen. */
+    private static final List<Function<GearBench, Number>> NEXT = List.of(
+            x -> x.count(0), x -> x.addPeg(1, 59), x -> x.putGear(0, 1, 1), x -> x.putRing(1, 0, 40),
+            x -> x.move(0, 59, 1), x -> x.flip(1), x -> x.drive(1), x -> x.goal(0, 1, 1), x -> x.set(2),
+            x -> x.ifPut(0, 1, 1, 0), x -> x.ifPut(0, 1, 1, 2), x -> x.clearBuffer(), x -> x.undo(),
+            Check::buildAgain);
+
     /** What a test does. */
     interface Body {
         void run() throws Exception;
     }
 
     private final String program;
+    private final Set<String> names = new HashSet<>();
     private String test = "outside of a test";
     private int passed = 0;
     private int failed = 0;
@@ -29,12 +40,13 @@ final class Check {
         int heldBefore = held;
         int differedBefore = differed;
         test = name;
+        tell(names.add(name), "another test has this name");
         try {
             body.run();
         } catch (Exception thrown) {
             tell(false, "the test ended by " + thrown);
         }
-        tell(held + differed > heldBefore + differedBefore, "the test compared nothing");
+        tell(held + differed > heldBefore + differedBefore + 1, "the test compared nothing");
         if (differed == differedBefore) {
             passed++;
         } else {
@@ -52,18 +64,16 @@ final class Check {
     void refuses(String name, Class<? extends RuntimeException> due, Supplier<GearBench> recipe,
             Function<GearBench, Number> call) {
         test(name, () -> {
-            GearBench x = recipe.get();
-            throwsJust(due, () -> call.apply(x));
-            same("what the refused call left", everything(x), everything(recipe.get()));
+            throwsJust(due, () -> call.apply(recipe.get()));
+            leaveAlike("the refused call", recipe, x -> answerOf(x, call));
         });
     }
 
     /** The call throws nothing, and leaves all as it was, the saved states and the buffer too. */
     void changesNothing(String name, Supplier<GearBench> recipe, Function<GearBench, Number> call) {
         test(name, () -> {
-            GearBench x = recipe.get();
-            call.apply(x);
-            same("what the call left", everything(x), everything(recipe.get()));
+            call.apply(recipe.get());
+            leaveAlike("the call", recipe, x -> answerOf(x, call));
         });
     }
 
@@ -76,7 +86,28 @@ final class Check {
             equal("saved states", x.count(10), saved + 1);
             equal("undo()", x.undo(), saved);
             same("what undo() brought back", everything(x), everything(recipe.get()));
+            leaveAlike("the call and undo()", recipe, y -> answerOf(y, call) + y.undo());
         });
+    }
+
+    /** Whatever is called next answers, and leaves, as if those calls had not been. */
+    private void leaveAlike(String what, Supplier<GearBench> recipe, Function<GearBench, String> calls) {
+        for (int next = 0; next < NEXT.size(); next++) {
+            GearBench x = recipe.get();
+            calls.apply(x);
+            GearBench y = recipe.get();
+            String answer = answerOf(x, NEXT.get(next));
+            same("behind " + what + " call " + next, answer, answerOf(y, NEXT.get(next)));
+            same("what call " + next + " left behind " + what, everything(x), everything(y));
+        }
+    }
+
+    private static String answerOf(GearBench x, Function<GearBench, Number> call) {
+        try {
+            return call.apply(x).toString();
+        } catch (RuntimeException thrown) {
+            return thrown.getClass().getSimpleName();
+        }
     }
 
     void end() {
@@ -155,6 +186,12 @@ final class Check {
             }
         }
         return bench;
+    }
+
+    private static Number buildAgain(GearBench x) {
+        x.clearBuffer();
+        type(x, "d1;p58,2");
+        return x.build();
     }
 
     /** All that a bench tells, now and in each of its saved states; the bench is undone by that. */

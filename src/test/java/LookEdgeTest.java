@@ -240,6 +240,8 @@ final class LookEdgeTest {
         CHECK.answers("promise 20: 0 in a jam", 0, () -> Benches.jammed().marks());
         CHECK.answers("promise 20: 1 for the driver alone", 1, () -> Check.built("p20,20;d0").marks());
         CHECK.answers("promise 20: by the denominator of the last peg", 3, () -> Benches.rich().marks());
+        CHECK.answers("promise 20: by the denominator of the first peg", 7,
+                () -> Check.built("p20,20;p30,20;g0.0=7;g1.0=3;d1").marks());
         CHECK.answers("promise 20: a number that needs a long", 40L * 37 * 39 * 40 * 39 * 40 * 35 * 38,
                 () -> longTrain(true).marks());
         CHECK.answers("promise 20: 1, though numerators need a long", 1, () -> longTrain(false).marks());
@@ -315,6 +317,7 @@ final class LookEdgeTest {
 
     private static void promise21Overlaps() {
         CHECK.answers("promise 21: nothing overlaps", 0, () -> Benches.rich().count(9));
+        CHECK.answers("promise 21: nothing overlaps among nine pegs that are full", 0, () -> filled(true).count(9));
         CHECK.answers("promise 21: two things overlap", 1, () -> Benches.overlapping().count(9));
         CHECK.answers("promise 21: two pegs that overlap on both levels are two pairs of things", 2, () -> {
             GearBench x = Benches.overlapping();

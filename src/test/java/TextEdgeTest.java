@@ -209,8 +209,10 @@ final class TextEdgeTest {
         error("the first one of two errors", "p61,61;x", 2);
         error("the last sign that can be typed", "~", 0);
         error("the first sign that can be typed", "!", 0);
-        error("the signs next to the digits, below", "d/", 1);
-        error("the signs next to the digits, above", "d:", 1);
+        error("the sign below the digits is none", "p/", 1);
+        error("the sign above the digits is none", "p:", 1);
+        error("the sign below the digits is none, behind a digit", "p1/", 2);
+        error("the sign above the digits is none, behind a digit", "p1:", 2);
     }
 
     private static void promise12Ends() {
@@ -293,6 +295,16 @@ final class TextEdgeTest {
         does("0 teeth on no peg end it", "d1;g8.1=0;d0", 1, y -> y.drive(1));
         does("the first order ends it", "d2;d1;d0", 0, y -> y.set(0));
         does("the last order ends it", "d0;d1;d2", 2, y -> y.drive(1));
+        CHECK.test("promise 13: a gear that would overlap leaves what is there", () -> {
+            GearBench x = typed("g1.0=5;g1.0=6");
+            CHECK.equal("done", x.build(), 1);
+            CHECK.equal("gear", x.peg(1, 4) * 100 + x.peg(1, 2), 105);
+        });
+        CHECK.test("promise 13: a ring that would overlap leaves what is there", () -> {
+            GearBench x = typed("g1.0=5;r1.0=14");
+            CHECK.equal("done", x.build(), 1);
+            CHECK.equal("gear", x.peg(1, 4) * 100 + x.peg(1, 2), 105);
+        });
         CHECK.test("promise 13: no order ends it", () -> {
             GearBench x = typed("p60,60;g2.1=20;r2.0=40;d2;g0.0=0");
             CHECK.equal("done", x.build(), 5);
@@ -399,13 +411,13 @@ final class TextEdgeTest {
     }
 
     private static void promise14Slots() {
-        CHECK.test("undo: 6 states are saved", () -> {
+        CHECK.test("promise 14, undo: 6 states are saved", () -> {
             GearBench x = drives(5);
             CHECK.equal("saved states", x.count(10), 6);
             undo(x, 6);
             CHECK.equal("pegs before all calls", x.count(0), 0);
         });
-        CHECK.test("undo: of 7 states the oldest one is dropped", () -> {
+        CHECK.test("promise 14, undo: of 7 states the oldest one is dropped", () -> {
             GearBench x = drives(6);
             CHECK.equal("saved states", x.count(10), 6);
             undo(x, 6);
@@ -413,7 +425,7 @@ final class TextEdgeTest {
             CHECK.equal("driver after the first call", x.count(4), -1);
             CHECK.throwsJust(Check.STATE, () -> x.undo());
         });
-        CHECK.test("undo: of 21 states the latest 6 are kept, in their order", () -> {
+        CHECK.test("promise 14, undo: of 21 states the latest 6 are kept, in their order", () -> {
             GearBench x = drives(20);
             for (int left = 5; left >= 0; left--) {
                 CHECK.equal("left", x.undo(), left);
@@ -421,7 +433,7 @@ final class TextEdgeTest {
             }
             CHECK.throwsJust(Check.STATE, () -> x.undo());
         });
-        CHECK.test("undo: slots that were undone are used again", () -> {
+        CHECK.test("promise 14, undo: slots that were undone are used again", () -> {
             GearBench x = drives(9);
             undo(x, 4);
             x.drive(7);
@@ -435,14 +447,14 @@ final class TextEdgeTest {
             }
             CHECK.throwsJust(Check.STATE, () -> x.undo());
         });
-        CHECK.test("undo: a call that changes nothing drops the oldest one, too", () -> {
+        CHECK.test("promise 14, undo: a call that changes nothing drops the oldest one, too", () -> {
             GearBench x = drives(5);
             x.set(0);
             CHECK.equal("saved states", x.count(10), 6);
             undo(x, 6);
             CHECK.equal("pegs after the first call", x.count(0), 9);
         });
-        CHECK.test("undo: build() drops one state alone", () -> {
+        CHECK.test("promise 14, undo: build() drops one state alone", () -> {
             GearBench x = drives(6);
             Check.type(x, "d0;d1;d2");
             x.build();
@@ -450,7 +462,8 @@ final class TextEdgeTest {
             undo(x, 6);
             CHECK.equal("the driver after the second call", x.count(4), driverAfter(1));
         });
-        CHECK.refuses("undo: a refused call drops no saved state", Check.INDEX, () -> drives(8), x -> x.drive(9));
+        CHECK.refuses("promise 14, undo: a refused call drops no saved state", Check.INDEX,
+                () -> drives(8), x -> x.drive(9));
     }
 
     private static int driverAfter(int calls) {
@@ -474,26 +487,26 @@ final class TextEdgeTest {
 
     /** The terms: all but the buffer and the saved states is saved. */
     private static void undoBringsBack() {
-        CHECK.test("undo: brings back the places", () -> {
+        CHECK.test("promise 14, undo: brings back the places", () -> {
             GearBench x = Benches.fresh();
             x.move(1, 44, 55);
             x.undo();
             CHECK.equal("x and y", x.peg(1, 0) * 100 + x.peg(1, 1), 2010);
         });
-        CHECK.test("undo: brings back the things", () -> {
+        CHECK.test("promise 14, undo: brings back the things", () -> {
             GearBench x = Benches.fresh();
             x.putRing(1, 1, 30);
             x.undo();
             CHECK.equal("kind and teeth", x.peg(1, 5) * 100 + x.peg(1, 3), 104);
         });
-        CHECK.test("undo: brings back the driver and the speeds", () -> {
+        CHECK.test("promise 14, undo: brings back the driver and the speeds", () -> {
             GearBench x = Benches.fresh();
             x.drive(3);
             x.undo();
             CHECK.equal("driver", x.count(4), 0);
             CHECK.equal("speed", x.speed(1, 0), -1);
         });
-        CHECK.test("undo: brings back the goal's peg and fraction", () -> {
+        CHECK.test("promise 14, undo: brings back the goal's peg and fraction", () -> {
             GearBench x = Benches.fresh();
             x.goal(1, -1, 1);
             x.goal(2, 1, 2);
@@ -501,25 +514,25 @@ final class TextEdgeTest {
             CHECK.equal("peg", x.count(7), 1);
             CHECK.equal("reached", x.count(8), 1);
         });
-        CHECK.test("undo: brings back the denominator of the goal", () -> {
+        CHECK.test("promise 14, undo: brings back the denominator of the goal", () -> {
             GearBench x = Benches.rich();
             x.goal(2, 2, 5);
             x.undo();
             CHECK.equal("reached", x.count(8), 1);
         });
-        CHECK.test("undo: brings back that there was no goal", () -> {
+        CHECK.test("promise 14, undo: brings back that there was no goal", () -> {
             GearBench x = Benches.fresh();
             x.goal(1, -1, 1);
             x.undo();
             CHECK.equal("peg", x.count(7), -1);
         });
-        CHECK.test("undo: brings back the play", () -> {
+        CHECK.test("promise 14, undo: brings back the play", () -> {
             GearBench x = Benches.fresh();
             x.set(3);
             x.undo();
             CHECK.equal("play", x.set(1), 0);
         });
-        CHECK.test("undo: brings back a jam", () -> {
+        CHECK.test("promise 14, undo: brings back a jam", () -> {
             GearBench x = Benches.jammed();
             x.set(0);
             CHECK.equal("no jam", x.count(6), 0);
@@ -528,36 +541,36 @@ final class TextEdgeTest {
         });
     }
 
-    /** The terms: what is not marked "undoable" saves nothing, and but for append, clearBuffer and undo changes nothing. */
+    /** The terms: what is not marked "undoable" saves nothing; looks, and what would be, change nothing at all. */
     private static void whatSavesNothing() {
-        CHECK.test("undo: append() saves nothing", () -> {
+        CHECK.test("promise 14, undo: append() saves nothing", () -> {
             GearBench x = Benches.fresh();
             x.append('d');
             CHECK.equal("saved states", x.count(10), 1);
         });
-        CHECK.test("undo: clearBuffer() saves nothing", () -> {
+        CHECK.test("promise 14, undo: clearBuffer() saves nothing", () -> {
             GearBench x = Benches.fresh();
             x.clearBuffer();
             CHECK.equal("saved states", x.count(10), 1);
         });
-        CHECK.changesNothing("looks; nothing is changed: peg", Benches::rich, x -> x.peg(1, 6));
-        CHECK.changesNothing("looks; nothing is changed: speed", Benches::rich, x -> x.speed(1, 0));
-        CHECK.changesNothing("looks; nothing is changed: meshes", Benches::rich, x -> x.meshes(0, 1));
-        CHECK.changesNothing("looks; nothing is changed: train", Benches::rich, x -> x.train(0, 2, 1));
-        CHECK.changesNothing("looks; nothing is changed: ratio", Benches::rich, x -> x.ratio(0, 2, 1));
-        CHECK.changesNothing("looks; nothing is changed: marks", Benches::rich, x -> x.marks());
-        CHECK.changesNothing("looks; nothing is changed: count", Benches::rich, x -> x.count(9));
+        CHECK.changesNothing("promise 15: nothing is changed by peg", Benches::rich, x -> x.peg(1, 6));
+        CHECK.changesNothing("promise 16: nothing is changed by speed", Benches::rich, x -> x.speed(1, 0));
+        CHECK.changesNothing("promise 17: nothing is changed by meshes", Benches::rich, x -> x.meshes(0, 1));
+        CHECK.changesNothing("promise 18: nothing is changed by train", Benches::rich, x -> x.train(0, 2, 1));
+        CHECK.changesNothing("promise 19: nothing is changed by ratio", Benches::rich, x -> x.ratio(0, 2, 1));
+        CHECK.changesNothing("promise 20: nothing is changed by marks", Benches::rich, x -> x.marks());
+        CHECK.changesNothing("promise 21: nothing is changed by count", Benches::rich, x -> x.count(9));
         for (int what = 0; what <= 3; what++) {
             int asked = what;
-            CHECK.changesNothing("what would be; nothing is changed: ifPut " + what, Benches::rich,
+            CHECK.changesNothing("promise 22: nothing is changed by ifPut " + what, Benches::rich,
                     x -> x.ifPut(1, 0, 4, asked));
-            CHECK.changesNothing("what would be; nothing is changed: ifPut of what would overlap " + what,
+            CHECK.changesNothing("promise 22: nothing is changed by ifPut of what would overlap " + what,
                     Benches::rich, x -> x.ifPut(1, 0, 20, asked));
         }
-        CHECK.changesNothing("what would be; nothing is changed: solution", TextEdgeTest::unreached, x -> x.solution(0));
-        CHECK.changesNothing("what would be; nothing is changed: culprit", Benches::jammed, x -> x.culprit());
-        CHECK.changesNothing("what would be; nothing is changed: turningShare", Benches::rich, x -> x.turningShare());
-        CHECK.changesNothing("what would be; nothing is changed: digest", TextEdgeTest::unreached, x -> x.digest());
+        CHECK.changesNothing("promise 23: nothing is changed by solution", TextEdgeTest::unreached, x -> x.solution(0));
+        CHECK.changesNothing("promise 24: nothing is changed by culprit", Benches::jammed, x -> x.culprit());
+        CHECK.changesNothing("promise 25: nothing is changed by turningShare", Benches::rich, x -> x.turningShare());
+        CHECK.changesNothing("promise 26: nothing is changed by digest", TextEdgeTest::unreached, x -> x.digest());
     }
 
     private static GearBench unreached() {

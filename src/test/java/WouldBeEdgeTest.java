@@ -44,7 +44,8 @@ final class WouldBeEdgeTest {
                 x -> x.ifPut(4, 0, 21, 0));
         CHECK.refuses("promise 22: no such peg goes before what", Check.INDEX, Benches::rich,
                 x -> x.ifPut(-1, 0, 1, 4));
-        CHECK.answers("promise 22: 0 teeth, level 0 and what 0 are in range", 0, () -> Benches.rich().ifPut(3, 0, 0, 0));
+        CHECK.answers("promise 22: 0 teeth, level 0 and what 0 are in range", 0,
+                () -> Benches.rich().ifPut(3, 0, 0, 0));
         CHECK.answers("promise 22: 20 teeth, level 1 and what 3 are in range", 1,
                 () -> Benches.rich().ifPut(3, 1, 20, 3));
     }
@@ -161,6 +162,16 @@ final class WouldBeEdgeTest {
         });
     }
 
+    /** Nine pegs with gears of 3 on level 0, each of which meshes with the next one; the first one drives. */
+    private static GearBench fullRow() {
+        GearBench x = Benches.nine();
+        for (int peg = 0; peg < 9; peg++) {
+            x.putGear(peg, 0, 3);
+        }
+        x.drive(0);
+        return x;
+    }
+
     private static void promise23None() {
         for (int what = 0; what < 3; what++) {
             int asked = what;
@@ -175,11 +186,17 @@ final class WouldBeEdgeTest {
         solves("NONE if no gear reaches it", Benches.fresh(), 0, 2, 1, -1, -1, -1);
         solves("NONE if the gear that would reach it would overlap",
                 Check.built("p20,20;p30,20;p25,20;g0.0=4;g2.0=1;d0"), 1, -2, 3, -1, -1, -1);
+        solves("NONE if a gear of 21 teeth alone would reach it", Check.built("p20,20;p42,20;g0.0=1;d0"), 1, -1, 21,
+                -1, -1, -1);
+        solves("NONE among nine pegs, after the last change of the last one", fullRow(), 0, 2, 1, -1, -1, -1);
         solves("NONE if a ring alone would reach it", Check.built("p20,20;p30,20;g0.0=5;d0"), 1, 1, 3, -1, -1, -1);
         solves("NONE if two gears would have to be put", Check.built("p20,20;p30,20;d0"), 1, -1, 1, -1, -1, -1);
     }
 
     private static void promise23Order() {
+        solves("a goal of the driver, that a jam hinders", inJam(), 0, 1, 1, 0, 0, 0);
+        solves("a goal of 0 of the driver, by a gear that jams", beforeJam(), 0, 0, 1, 1, 1, 6);
+        solves("a goal of the first peg", Check.built("p20,20;p30,20;g1.0=4;d1"), 0, -2, 3, 0, 0, 6);
         solves("a lower peg goes before a lower level and fewer teeth",
                 Check.built("p20,20;p30,20;g1.1=1;g0.0=9;d0"), 1, -9, 1, 0, 1, 9);
         solves("of two pegs the lower one", Check.built("p20,20;p30,20;p40,20;g0.0=5;g2.0=5;d0"), 2, 1, 1, 1, 0, 5);
@@ -219,6 +236,20 @@ final class WouldBeEdgeTest {
             return x.culprit();
         });
         CHECK.answers("promise 24: NONE if the driver would be alone", -1, () -> inJam().culprit());
+        CHECK.answers("promise 24: NONE among nine pegs, of which none would free it", -1, () -> {
+            GearBench x = fullRow();
+            x.putGear(0, 1, 2);
+            x.putGear(1, 1, 4);
+            x.putGear(3, 1, 2);
+            x.putGear(4, 1, 4);
+            CHECK.equal("jam", x.count(6), 1);
+            return x.culprit();
+        });
+        CHECK.answers("promise 24: NONE if the driver would be alone beside a peg with nothing on it", -1, () -> {
+            GearBench x = Check.built("p20,20;p25,20;g0.0=5;r1.0=10;g0.1=2;g1.1=3;d0");
+            CHECK.equal("jam", x.count(6), 1);
+            return x.culprit();
+        });
         CHECK.answers("promise 24: one other peg joined is enough", 1, () -> {
             GearBench x = inJam();
             x.addPeg(10, 20);
@@ -329,7 +360,7 @@ final class WouldBeEdgeTest {
         }
     }
 
-    /** Gears of one tooth in a row, of which the first ones turn; the trains of such a row can be told without looks. */
+    /** Gears of one tooth in a row, of which the first ones turn; its trains can be told without looks. */
     private static void bitsOfShare(int pegs, int turning) {
         GearBench x = new GearBench();
         for (int peg = 0; peg < pegs; peg++) {
