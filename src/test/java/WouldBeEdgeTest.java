@@ -250,6 +250,11 @@ final class WouldBeEdgeTest {
             CHECK.equal("jam", x.count(6), 1);
             return x.culprit();
         });
+        CHECK.answers("promise 24: without its things a peg touches no gear that reaches just to it", 1, () -> {
+            GearBench x = Check.built("p20,20;p25,20;p10,20;g0.0=5;r1.0=10;g0.1=2;g1.1=3;d0", "g2.0=5");
+            CHECK.equal("jam", x.count(6), 1);
+            return x.culprit();
+        });
         CHECK.answers("promise 24: one other peg joined is enough", 1, () -> {
             GearBench x = inJam();
             x.addPeg(10, 20);
