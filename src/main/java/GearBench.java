@@ -622,6 +622,11 @@ public final class GearBench {
             goalDenominator = divisor > 1 ? denominator / divisor : denominator;
         }
 
+        /** The teeth of what drives, below 0 if it turns the other peg against it. */
+        private int signedTeeth(int spot, int otherSpot) {
+            return kinds[spot] == kinds[otherSpot] ? -teeth[spot] : teeth[spot];
+        }
+
         private int squareOfDistance(int one, int other) {
             int byX = x[one] - x[other];
             int byY = y[one] - y[other];
@@ -797,8 +802,10 @@ public final class GearBench {
         }
 
         private void turn(Bench bench, int from, int to, int level) {
-            long numerator = numerators[from] * signedTeeth(bench, from, to, level);
-            long denominator = denominators[from] * bench.teeth[Bench.spot(to, level)];
+            int spot = Bench.spot(from, level);
+            int otherSpot = Bench.spot(to, level);
+            long numerator = numerators[from] * bench.signedTeeth(spot, otherSpot);
+            long denominator = denominators[from] * bench.teeth[otherSpot];
             long divisor = commonDivisor(numerator, denominator);
             if (divisor > 1L) {
                 numerator = numerator / divisor;
@@ -809,13 +816,6 @@ public final class GearBench {
             } else if (numerators[to] != numerator || denominators[to] != denominator) {
                 jam = true;
             }
-        }
-
-        /** The teeth of what drives, below 0 if it turns the other peg against it. */
-        private static int signedTeeth(Bench bench, int from, int to, int level) {
-            int spot = Bench.spot(from, level);
-            boolean against = bench.kinds[spot] == bench.kinds[Bench.spot(to, level)];
-            return against ? -bench.teeth[spot] : bench.teeth[spot];
         }
 
         private int levelsOf(int one, int other) {
@@ -951,8 +951,10 @@ public final class GearBench {
         }
 
         private void turn(Bench bench, int from, int to, int level) {
-            long driving = numerator * Works.signedTeeth(bench, from, to, level);
-            long driven = denominator * bench.teeth[Bench.spot(to, level)];
+            int spot = Bench.spot(from, level);
+            int otherSpot = Bench.spot(to, level);
+            long driving = numerator * bench.signedTeeth(spot, otherSpot);
+            long driven = denominator * bench.teeth[otherSpot];
             long divisor = commonDivisor(driving, driven);
             numerator = divisor > 1L ? driving / divisor : driving;
             denominator = divisor > 1L ? driven / divisor : driven;

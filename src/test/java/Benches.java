@@ -1,5 +1,11 @@
 /** Benches that many tests begin with; each call makes a new one. */
 final class Benches {
+    /** Of longTrain(): where its pegs are, the teeth of its rings, and the product of these. */
+    static final int[] LONG_X = {31, 53, 47, 29, 13, 48, 28, 57, 28};
+    static final int[] LONG_Y = {36, 4, 38, 3, 41, 46, 10, 23, 47};
+    static final int[] LONG_RINGS = {40, 37, 39, 40, 39, 40, 35, 38};
+    static final long LONG_PRODUCT = 40L * 37 * 39 * 40 * 39 * 40 * 35 * 38;
+
     private Benches() {
     }
 
@@ -54,5 +60,20 @@ final class Benches {
         x.putGear(1, 0, 7);
         x.set(0);
         return x;
+    }
+
+    /** Gears of one tooth within rings, eight times; the first or the last one of nine pegs is the driver. */
+    static GearBench longTrain(boolean firstDrives) {
+        GearBench bench = new GearBench();
+        bench.set(3);
+        bench.addPeg(LONG_X[0], LONG_Y[0]);
+        for (int peg = 1; peg <= 8; peg++) {
+            int level = (peg - 1) % 2;
+            bench.addPeg(LONG_X[peg], LONG_Y[peg]);
+            bench.putGear(peg - 1, level, 1);
+            bench.putRing(peg, level, LONG_RINGS[peg - 1]);
+        }
+        bench.drive(firstDrives ? 0 : 8);
+        return bench;
     }
 }

@@ -1,6 +1,10 @@
 import java.nio.file.Files;
 import java.nio.file.Path;
+import java.util.Map;
 import java.util.List;
+import java.util.Set;
+import java.util.TreeMap;
+import java.util.TreeSet;
 import java.util.regex.Matcher;
 import java.util.regex.Pattern;
 
@@ -10,6 +14,9 @@ final class LanguageTest {
     private static final int LONGEST_METHOD = 60;
     private static final int MOST_CLASSES = 12;
     private static final int MOST_FIELDS = 20;
+    // The rule allows eight; one is kept free, as it may count the caller, too.
+    private static final int DEEPEST_CALLS = 7;
+    private static final String PROGRAM = "src/main/java/GearBench.java";
 
     /** Words that the rules forbid or that this program needs none of. */
     private static final String[] FORBIDDEN = {"import", "package", "try", "catch", "finally", "synchronized",
@@ -22,11 +29,12 @@ final class LanguageTest {
 
     public static void main(String[] args) {
         CHECK.test("LANGUAGE.md", LanguageTest::allRules);
+        CHECK.test("LANGUAGE.md, rule 11: how deep calls go", LanguageTest::callsAreNotDeep);
         CHECK.end();
     }
 
     private static void allRules() throws Exception {
-        String whole = Files.readString(Path.of("src/main/java/GearBench.java"));
+        String whole = Files.readString(Path.of(PROGRAM));
         String text = withoutComments(whole);
         for (int i = 0; i < whole.length(); i++) {
             if (whole.charAt(i) > 126 || whole.charAt(i) < 32 && whole.charAt(i) != '\n') {
@@ -91,5 +99,46 @@ final class LanguageTest {
                 CHECK.equal("rule 11: parameters", method.getParameterCount() <= 7 ? 1 : 0, 1);
             }
         }
+    }
+
+    private static void callsAreNotDeep() throws Exception {
+        Map<String, Set<String>> calls = callsByName(withoutComments(Files.readString(Path.of(PROGRAM))));
+        for (String name : calls.keySet()) {
+            int depth = depth(calls, name, 1);
+            CHECK.equal("calls from " + name + " go " + depth + " deep", depth <= DEEPEST_CALLS ? 1 : 0, 1);
+        }
+    }
+
+    /** Which methods each method calls; those of unlike classes with one name count as one. */
+    private static Map<String, Set<String>> callsByName(String text) {
+        Map<String, String> bodies = new TreeMap<>();
+        Matcher method = Pattern.compile("(?ms)^( {4}| {8})(?:public|private)[^=;{}]*?\\b([a-z]\\w*)\\([^{};]*\\{(.*?)^\\1\\}")
+                .matcher(text);
+        while (method.find()) {
+            bodies.merge(method.group(2), method.group(3), String::concat);
+        }
+        Map<String, Set<String>> calls = new TreeMap<>();
+        for (Map.Entry<String, String> body : bodies.entrySet()) {
+            Set<String> called = new TreeSet<>();
+            Matcher call = Pattern.compile("\\b([a-z]\\w*)\\(").matcher(body.getValue());
+            while (call.find()) {
+                if (bodies.containsKey(call.group(1))) {
+                    called.add(call.group(1));
+                }
+            }
+            calls.put(body.getKey(), called);
+        }
+        return calls;
+    }
+
+    /** How many calls stand open at most; no deeper than one too many, so that it ends with recursion, too. */
+    private static int depth(Map<String, Set<String>> calls, String name, int open) {
+        int deepest = open;
+        if (open <= DEEPEST_CALLS) {
+            for (String called : calls.get(name)) {
+                deepest = Math.max(deepest, depth(calls, called, open + 1));
+            }
+        }
+        return deepest;
     }
 }

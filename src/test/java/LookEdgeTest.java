@@ -86,15 +86,14 @@ final class LookEdgeTest {
         speed("against the driver", Benches.rich(), 1, -1, 1);
         speed("through two levels", Benches.rich(), 2, 2, 3);
         CHECK.test("promise 16: a numerator that needs a long", () -> {
-            GearBench x = longTrain(false);
-            long product = 40L * 37 * 39 * 40 * 39 * 40 * 35 * 38;
-            CHECK.equal("numerator", x.speed(0, 0), product);
+            GearBench x = Benches.longTrain(false);
+            CHECK.equal("numerator", x.speed(0, 0), Benches.LONG_PRODUCT);
             CHECK.equal("denominator", x.speed(0, 1), 1);
         });
         CHECK.test("promise 16: a denominator that needs a long", () -> {
-            GearBench x = longTrain(true);
+            GearBench x = Benches.longTrain(true);
             CHECK.equal("numerator", x.speed(8, 0), 1);
-            CHECK.equal("denominator", x.speed(8, 1), 40L * 37 * 39 * 40 * 39 * 40 * 35 * 38);
+            CHECK.equal("denominator", x.speed(8, 1), Benches.LONG_PRODUCT);
         });
     }
 
@@ -103,24 +102,6 @@ final class LookEdgeTest {
             CHECK.equal("numerator", x.speed(peg, 0), numerator);
             CHECK.equal("denominator", x.speed(peg, 1), denominator);
         });
-    }
-
-    /** Gears of one tooth within rings, eight times; the first or the last one of nine pegs is the driver. */
-    private static GearBench longTrain(boolean firstDrives) {
-        int[] x = {31, 53, 47, 29, 13, 48, 28, 57, 28};
-        int[] y = {36, 4, 38, 3, 41, 46, 10, 23, 47};
-        int[] rings = {40, 37, 39, 40, 39, 40, 35, 38};
-        GearBench bench = new GearBench();
-        bench.set(3);
-        bench.addPeg(x[0], y[0]);
-        for (int peg = 1; peg <= 8; peg++) {
-            int level = (peg - 1) % 2;
-            bench.addPeg(x[peg], y[peg]);
-            bench.putGear(peg - 1, level, 1);
-            bench.putRing(peg, level, rings[peg - 1]);
-        }
-        bench.drive(firstDrives ? 0 : 8);
-        return bench;
     }
 
     // ---- Promise 17
@@ -220,8 +201,8 @@ final class LookEdgeTest {
         ratio("of three pegs", Benches.rich(), 2, 0, 3, 2);
         ratio("in a jam, as if it turned", Benches.jammed(), 0, 2, -1, 1);
         ratio("without a driver", Check.built("p20,20;p30,20;g0.0=4;g1.0=6"), 1, 0, -3, 2);
-        ratio("that needs a long", longTrain(true), 8, 0, 40L * 37 * 39 * 40 * 39 * 40 * 35 * 38, 1);
-        ratio("whose denominator needs a long", longTrain(true), 0, 8, 1, 40L * 37 * 39 * 40 * 39 * 40 * 35 * 38);
+        ratio("that needs a long", Benches.longTrain(true), 8, 0, Benches.LONG_PRODUCT, 1);
+        ratio("whose denominator needs a long", Benches.longTrain(true), 0, 8, 1, Benches.LONG_PRODUCT);
     }
 
     private static void ratio(String rule, GearBench x, int from, int to, long numerator, long denominator) {
@@ -242,9 +223,9 @@ final class LookEdgeTest {
         CHECK.answers("promise 20: by the denominator of the last peg", 3, () -> Benches.rich().marks());
         CHECK.answers("promise 20: by the denominator of the first peg", 7,
                 () -> Check.built("p20,20;p30,20;g0.0=7;g1.0=3;d1").marks());
-        CHECK.answers("promise 20: a number that needs a long", 40L * 37 * 39 * 40 * 39 * 40 * 35 * 38,
-                () -> longTrain(true).marks());
-        CHECK.answers("promise 20: 1, though numerators need a long", 1, () -> longTrain(false).marks());
+        CHECK.answers("promise 20: a number that needs a long", Benches.LONG_PRODUCT,
+                () -> Benches.longTrain(true).marks());
+        CHECK.answers("promise 20: 1, though numerators need a long", 1, () -> Benches.longTrain(false).marks());
     }
 
     // ---- Promise 21

@@ -356,6 +356,8 @@ final class WouldBeEdgeTest {
             CHECK.equal("digest()", x.digest(), due);
             return x.clearBuffer();
         });
+        CHECK.answers("promise 26: numbers that need a long", hashOfLongTrain(),
+                () -> Benches.longTrain(true).digest());
         for (int pegs = 1; pegs <= 9; pegs++) {
             for (int turning = 0; turning <= pegs; turning++) {
                 int all = pegs;
@@ -363,6 +365,38 @@ final class WouldBeEdgeTest {
                 CHECK.test("promise 26: the bits of " + turning + " by " + pegs, () -> bitsOfShare(all, some));
             }
         }
+    }
+
+    /** What is due for longTrain(true), by what is known of it. */
+    private static long hashOfLongTrain() {
+        long due = hash(2753, 9, 8, 8, 8, 0, 9, 0, -1, 0, 0, 6, 3);
+        for (int peg = 0; peg < 9; peg++) {
+            int ring = peg == 0 ? 0 : Benches.LONG_RINGS[peg - 1];
+            int gear = peg == 8 ? 0 : 1;
+            int ringKind = peg == 0 ? 0 : 2;
+            boolean gearBelow = peg % 2 == 0;
+            due = hash(due, Benches.LONG_X[peg], Benches.LONG_Y[peg], gearBelow ? gear : ring, gearBelow ? ring : gear,
+                    gearBelow ? gear : ringKind, gearBelow ? ringKind : gear, peg == 0 || peg == 8 ? 1 : 2, 1, 1,
+                    1, productOfRings(0, peg));
+        }
+        for (int from = 0; from < 9; from++) {
+            for (int to = 0; to < 9; to++) {
+                int steps = Math.abs(from - to);
+                int next = from == to ? -1 : from < to ? from + 1 : from - 1;
+                int level = Math.min(from, to) % 2;
+                due = hash(due, steps == 1 ? level + 1 : 0, steps + 1, 0, next, 0,
+                        productOfRings(to, from), productOfRings(from, to));
+            }
+        }
+        return hash(due, Benches.LONG_PRODUCT, -1, -1, -1, -1, Double.doubleToLongBits(1.0), 0);
+    }
+
+    private static long productOfRings(int from, int to) {
+        long product = 1;
+        for (int ring = from; ring < to; ring++) {
+            product *= Benches.LONG_RINGS[ring];
+        }
+        return product;
     }
 
     /** Gears of one tooth in a row, of which the first ones turn; its trains can be told without looks. */
